@@ -1,0 +1,337 @@
+/** Random runs of 512 calls, each answer held against the model's. */
+public final class AgainstModelTest {
+    private static final int[] ODD = {-1, -2, 24, 25, 31, 32, 64, 1000, Integer.MAX_VALUE, Integer.MIN_VALUE, -7};
+
+    private long seed;
+    private ArrowTables x;
+    private Model m;
+
+    public static void main(String[] args) {
+        for (int run = 0; run < 400; run++) {
+            new AgainstModelTest().run(run);
+        }
+        Due.end();
+    }
+
+    private int pick(int n) {
+        seed = seed * 6364136223846793005L + 1442695040888963407L;
+        return (int) ((seed >>> 33) % n);
+    }
+
+    private int some(int n) {
+        int chance = pick(40);
+        if (chance == 0) {
+            return ODD[pick(ODD.length)];
+        }
+        return chance == 1 ? n : pick(Math.max(n, 1));
+    }
+
+    private void run(int number) {
+        seed = 1000003L * number + 17;
+        x = new ArrowTables();
+        m = new Model();
+        int calls = 0;
+        if (number % 8 != 0) {
+            for (int i = 0; i < 2 + number % 5; i++) {
+                calls += start(number);
+            }
+        }
+        String before = "";
+        for (; calls < 512; calls++) {
+            String said = call(number);
+            if (!said.isEmpty()) {
+                System.out.println("run " + number + ", call " + calls + ": " + said);
+                Due.holds("run " + number + " is as the model's", false);
+                return;
+            }
+        }
+        Due.is("run " + number + " digest()", x.digest(), m.digest());
+    }
+
+    /** A world to begin with; answers how many calls it took. */
+    private int start(int number) {
+        int kind = pick(5);
+        if (kind == 0) {
+            return monoid();
+        }
+        if (kind == 1) {
+            int n = 1 + pick(4);
+            same("table", x.table(n), m.table(n));
+            same("close", x.close(m.worlds.size() - 1), m.close(m.worlds.size() - 1));
+            return 2;
+        }
+        int n = 1 + pick(number % 10 == 0 ? 6 : 4);
+        long rows = rightRows(n);
+        same("order", x.order(n, rows), m.order(n, rows));
+        return 1;
+    }
+
+    private void same(String call, long got, long want) {
+        Due.is(call, got, want);
+    }
+
+    private long rightRows(int n) {
+        long rows = (long) pick(1 << 30) << 30 | pick(1 << 30);
+        rows &= (long) pick(1 << 30) << 30 | pick(1 << 30);
+        for (int i = 0; i < n; i++) {
+            rows |= 1L << 7 * i;
+        }
+        for (int pass = 0; pass < 6; pass++) {
+            for (int z = 0; z < 6; z++) {
+                for (int y = 0; y < 6; y++) {
+                    if ((rows >>> (6 * z + y) & 1) != 0) {
+                        rows |= (rows >>> 6 * y & 63) << 6 * z;
+                    }
+                }
+            }
+        }
+        return rows;
+    }
+
+    /** Maps of a few points to themselves, closed under one after the other, are worlds of one object. */
+    private int monoid() {
+        int points = 1 + pick(3);
+        int most = points == 3 ? 27 : points == 2 ? 4 : 1;
+        boolean[] in = new boolean[most];
+        int[] at = new int[most];
+        int self = points == 3 ? 0 * 1 + 1 * 3 + 2 * 9 : points == 2 ? 2 : 0;
+        in[self] = true;
+        for (int i = 0; i < 1 + pick(2); i++) {
+            in[pick(most)] = true;
+        }
+        for (int pass = 0; pass < 30; pass++) {
+            for (int a = 0; a < most; a++) {
+                for (int b = 0; b < most; b++) {
+                    if (in[a] && in[b]) {
+                        in[after(a, b, points)] = true;
+                    }
+                }
+            }
+        }
+        int size = 1;
+        int[] list = new int[28];
+        list[0] = self;
+        for (int a = 0; a < most; a++) {
+            if (in[a] && a != self) {
+                at[a] = size;
+                list[size++] = a;
+            }
+        }
+        if (size > 12 || m.worlds.size() >= 8) {
+            return 0;
+        }
+        int t = m.table(1);
+        same("table", x.table(1), t);
+        int calls = 1;
+        for (int a = 1; a < size; a++, calls++) {
+            same("arrow", x.arrow(t, 0, 0), m.arrow(t, 0, 0));
+        }
+        for (int a = 1; a < size; a++) {
+            for (int b = 1; b < size; b++, calls++) {
+                int c = at[after(list[a], list[b], points)];
+                same("way", x.way(t, a, b, c), m.way(t, a, b, c));
+            }
+        }
+        same("close", x.close(t), m.close(t));
+        return calls + 1;
+    }
+
+    private static int after(int a, int b, int points) {
+        int made = 0;
+        int factor = 1;
+        for (int p = 0; p < points; p++) {
+            int q = digit(a, p, points);
+            made += digit(b, q, points) * factor;
+            factor *= points;
+        }
+        return made;
+    }
+
+    private static int digit(int map, int place, int points) {
+        for (int i = 0; i < place; i++) {
+            map /= points;
+        }
+        return map % points;
+    }
+
+    private int t() {
+        return some(m.worlds.size());
+    }
+
+    private int f() {
+        return some(m.carries.size());
+    }
+
+    private int objectOf(int t) {
+        return some(t >= 0 && t < m.worlds.size() ? m.worlds.get(t).n : 3);
+    }
+
+    private int arrowOf(int t) {
+        return some(t >= 0 && t < m.worlds.size() ? m.worlds.get(t).size() : 3);
+    }
+
+    private int tableOf(int f, boolean goal) {
+        if (f < 0 || f >= m.carries.size()) {
+            return NOWHERE;
+        }
+        return goal ? m.carries.get(f).u : m.carries.get(f).t;
+    }
+
+    private static final int NOWHERE = -1;
+
+    private String told(String call, long got, long want) {
+        return got == want ? "" : call + " answered " + got + ", the model " + want;
+    }
+
+    private String call(int number) {
+        int kind = pick(100);
+        if (kind < 30) {
+            return tableCall(kind, number);
+        }
+        return kind < 80 ? carrierCall(kind) : sieveCall(kind);
+    }
+
+    private String tableCall(int kind, int number) {
+        int t = t();
+        int a = arrowOf(t);
+        int b = arrowOf(t);
+        int c = arrowOf(t);
+        if (kind < 2) {
+            int n = some(number % 20 == 0 ? 8 : 4);
+            return pick(3) != 0 ? "" : told("table " + n, x.table(n), m.table(n));
+        }
+        if (kind < 5) {
+            int from = objectOf(t);
+            int to = objectOf(t);
+            return told("arrow " + t + " " + from + " " + to, x.arrow(t, from, to), m.arrow(t, from, to));
+        }
+        if (kind < 12) {
+            if (pick(4) != 0) {
+                for (int i = 0; i < 10 && m.wayOf(t, a, b) == -1; i++) {
+                    a = arrowOf(t);
+                    b = arrowOf(t);
+                    c = arrowOf(t);
+                }
+            }
+            return told("way " + t + " " + a + " " + b + " " + c, x.way(t, a, b, c), m.way(t, a, b, c));
+        }
+        if (kind < 15) {
+            return told("close " + t, x.close(t), m.close(t));
+        }
+        int what = some(5);
+        if (kind < 18) {
+            return told("fault " + t + " " + what, x.fault(t, what), m.fault(t, what));
+        }
+        if (kind < 20) {
+            int n = 1 + some(4);
+            long rows = pick(2) == 0 ? rightRows(Math.max(1, Math.min(n, 6))) : (long) pick(1 << 30) << 30 | pick(1 << 30);
+            return pick(3) != 0 ? "" : told("order " + n + " " + rows, x.order(n, rows), m.order(n, rows));
+        }
+        if (kind < 21) {
+            return pick(3) != 0 ? "" : told("turned " + t, x.turned(t), m.turned(t));
+        }
+        if (kind < 23) {
+            int u = t();
+            return pick(2) != 0 ? "" : told("beside " + t + " " + u, x.beside(t, u), m.beside(t, u));
+        }
+        if (kind < 25) {
+            return told("about " + t + " " + what, x.about(t, what), m.about(t, what));
+        }
+        if (kind < 27) {
+            return told("end " + t + " " + a + " " + what, x.end(t, a, what), m.end(t, a, what));
+        }
+        return told("wayOf " + t + " " + a + " " + b, x.wayOf(t, a, b), m.wayOf(t, a, b));
+    }
+
+    private String carrierCall(int kind) {
+        int t = t();
+        int u = t();
+        int f = f();
+        int g = f();
+        int k = some(pick(3) == 0 ? 1 : 12);
+        int what = some(5);
+        if (kind < 33) {
+            return told("carriers " + t + " " + u, x.carriers(t, u), m.carriers(t, u));
+        }
+        if (kind < 40) {
+            return m.carries.size() > 18 && pick(8) != 0 ? ""
+                : told("carrier " + t + " " + u + " " + k, x.carrier(t, u, k), m.carrier(t, u, k));
+        }
+        if (kind < 43) {
+            return m.carries.size() > 18 && pick(8) != 0 ? "" : told("then " + f + " " + g, x.then(f, g), m.then(f, g));
+        }
+        if (kind < 48) {
+            return told("told " + f + " " + what, x.told(f, what), m.told(f, what));
+        }
+        if (kind < 50) {
+            int a = arrowOf(tableOf(f, false));
+            return told("gives " + f + " " + a, x.gives(f, a), m.gives(f, a));
+        }
+        if (kind < 52) {
+            return told("same " + t + " " + u, x.same(t, u), m.same(t, u));
+        }
+        return familyCall(kind, f, g, k, what);
+    }
+
+    private String familyCall(int kind, int f, int g, int k, int what) {
+        if (pick(3) != 0) {
+            for (int i = 0; i < 10 && m.bridges(f, g) == Model.NO; i++) {
+                g = f();
+            }
+        }
+        int d = objectOf(tableOf(f, true));
+        if (kind < 57) {
+            return told("bridges " + f + " " + g, x.bridges(f, g), m.bridges(f, g));
+        }
+        if (kind < 62) {
+            int at = objectOf(tableOf(f, false));
+            k = Math.min(k, pick(5));
+            return told("bridge " + f + " " + g + " " + k + " " + at, x.bridge(f, g, k, at), m.bridge(f, g, k, at));
+        }
+        if (kind < 66) {
+            return told("limit " + f, x.limit(f), m.limit(f));
+        }
+        if (kind < 70) {
+            return told("leg " + what, x.leg(what), m.leg(what));
+        }
+        if (kind < 73) {
+            return told("cones " + f + " " + d, x.cones(f, d), m.cones(f, d));
+        }
+        if (kind < 77) {
+            what = some(2);
+            return told("answer " + f + " " + d + " " + what, x.answer(f, d, what), m.answer(f, d, what));
+        }
+        return told("answers " + f, x.answers(f), m.answers(f));
+    }
+
+    private String sieveCall(int kind) {
+        int t = t();
+        int at = objectOf(t);
+        int k = some(5);
+        int s = aSieve(t, at);
+        int r = aSieve(t, at);
+        int a = arrowOf(t);
+        if (kind < 83) {
+            return told("sieves " + t + " " + at, x.sieves(t, at), m.sieves(t, at));
+        }
+        if (kind < 86) {
+            return told("sieve " + t + " " + at + " " + k, x.sieve(t, at, k), m.sieve(t, at, k));
+        }
+        if (kind < 91) {
+            return told("pull " + t + " " + at + " " + s + " " + a, x.pull(t, at, s, a), m.pull(t, at, s, a));
+        }
+        if (kind < 96) {
+            return told("follows " + t + " " + at + " " + s + " " + r, x.follows(t, at, s, r), m.follows(t, at, s, r));
+        }
+        if (kind < 98) {
+            int what = some(3);
+            return told("count " + what, x.count(what), m.count(what));
+        }
+        return told("digest", x.digest(), m.digest());
+    }
+
+    private int aSieve(int t, int at) {
+        int sieve = m.sieve(t, at, pick(6));
+        return pick(8) == 0 || sieve < 0 ? some(1 << 10) : sieve;
+    }
+}

@@ -1,0 +1,35 @@
+/** Promise 18: same. */
+public final class Promise18SameTest {
+    public static void main(String[] args) {
+        ArrowTables x = new ArrowTables();
+        int one = Worlds.points(x, 1);
+        int two = Worlds.points(x, 2);
+        int chain = Worlds.chain(x, 3);
+        int round = Worlds.round(x, 3);
+        int turns = Worlds.turns(x, 2);
+        int latters = Worlds.latters(x, 2);
+        int six = Worlds.chain(x, 6);
+        int open = x.table(1);
+        Due.is("one and round", x.same(one, round), 1);
+        Due.is("round and one", x.same(round, one), 1);
+        Due.is("one and two", x.same(one, two), 0);
+        Due.is("two and one", x.same(two, one), 0);
+        Due.is("two and round", x.same(two, round), 0);
+        Due.is("chain and itself", x.same(chain, chain), 1);
+        Due.is("tries of its search", x.count(2), 393);
+        Due.is("turns and latters", x.same(turns, latters), 0);
+        Due.is("turns and themselves", x.same(turns, turns), 1);
+        Due.is("one and turns", x.same(one, turns), 0);
+        Due.is("tries", x.count(2), 1);
+        Due.is("spent", x.same(six, six), Due.SPENT);
+        Due.is("open", x.same(open, one), Due.NO);
+        Due.is("other open", x.same(one, open), Due.NO);
+        for (int odd : new int[] {8, -1, Integer.MAX_VALUE, Integer.MIN_VALUE}) {
+            Due.is("same(" + odd + ", ..)", x.same(odd, open), Due.BAD);
+            Due.is("same(.., " + odd + ")", x.same(open, odd), Due.BAD);
+        }
+        Due.is("tries", x.count(2), 1);
+        Due.is("none is kept", x.count(1), 0);
+        Due.end();
+    }
+}
