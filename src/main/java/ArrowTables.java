@@ -723,7 +723,7 @@ public final class ArrowTables {
         coneRows.size = 0;
         for (int p = 0; p < diagram.to.objects; p++) {
             int chances = coneChances(diagram, p);
-            for (int i = 0; i < chances && i < MOST_LIMIT_CHANCES; i++) {
+            for (int i = 0; i < chances; i++) {
                 family.choose(diagram.from.objects);
                 if (family.holds(diagram.from, diagram.to, apexRow, diagram.given)) {
                     coneRows.add(p, family.choice, diagram.from.objects);

@@ -21,6 +21,8 @@ public final class Promise07OrderTest {
         Due.is("no object has itself", x.order(2, 0), Due.NO);
         Due.is("one has not itself", x.order(2, rows(1, 0)), Due.NO);
         Due.is("not what those have that it has", x.order(3, rows(3, 6, 4)), Due.NO);
+        Due.is("2 has 0, 0 has 1", x.order(3, rows(3, 2, 5)), Due.NO);
+        Due.is("2 has 1, 1 has 0", x.order(3, rows(1, 3, 6)), Due.NO);
         Due.is("25 arrows", x.order(5, Worlds.roundRows(5)), Due.NO);
         Due.is("36 arrows", x.order(6, -1L), Due.NO);
         Due.is("count(0)", x.count(0), 0);
@@ -48,8 +50,8 @@ public final class Promise07OrderTest {
         Due.is("other bits and rows", x.about(two, 1), 2);
         int high = x.order(6, rows(1, 2, 4, 8, 16, 32) | 15L << 60);
         Due.is("bits above the rows", x.about(high, 1), 6);
-        Due.is("chain of 6", x.order(6, Worlds.chainRows(6)), 6);
-        Due.is("its arrows", x.about(6, 1), 21);
+        int five = x.order(5, rows(31, 31, 31, 31, 16, 63));
+        Due.is("21 arrows, a row that is none not counted", x.about(five, 1), 21);
         Due.is("the eighth", x.order(1, 1), 7);
         long before = x.digest();
         Due.is("order when full", x.order(1, 1), Due.FULL);

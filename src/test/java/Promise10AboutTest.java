@@ -17,13 +17,15 @@ public final class Promise10AboutTest {
         about(x, open, 3, 6, 0, 4, Due.NO);
         about(x, Worlds.chain(x, 4), 4, 10, 1, 4, 4);
         about(x, Worlds.round(x, 3), 3, 9, 1, 12, 9);
+        // in and back does nothing, back and in does something: none has both
+        about(x, Worlds.inside(x), 2, 5, 1, 5, 2);
         about(x, Worlds.turns(x, 5), 1, 5, 1, 16, 5);
         about(x, Worlds.latters(x, 4), 1, 4, 1, 9, 1);
         about(x, x.order(3, 3 | 3 << 6 | 7 << 12), 3, 7, 1, 4, 5);
         for (int odd : new int[] {5, -1, Integer.MAX_VALUE, Integer.MIN_VALUE}) {
             Due.is("about what " + odd, x.about(open, odd), Due.BAD);
         }
-        for (int odd : new int[] {6, 8, -1, Integer.MAX_VALUE, Integer.MIN_VALUE}) {
+        for (int odd : new int[] {7, 8, -1, Integer.MAX_VALUE, Integer.MIN_VALUE}) {
             Due.is("about of " + odd, x.about(odd, 4), Due.BAD);
         }
         Due.end();

@@ -28,10 +28,13 @@ public final class Promise16ToldTest {
         told(x, x.carrier(round, one, 0), round, one, 1, 1, 1);
         // arrows that are unlike in their ends alone may get one arrow
         told(x, x.carrier(chain, one, 0), chain, one, 1, 0, 1);
+        int inside = Worlds.inside(x);
+        told(x, x.carrier(one, inside, 0), one, inside, 1, 1, 0);
+        told(x, x.carrier(one, inside, 1), one, inside, 1, 0, 0);
         for (int odd : new int[] {5, -1, Integer.MAX_VALUE, Integer.MIN_VALUE}) {
             Due.is("told what " + odd, x.told(0, odd), Due.BAD);
         }
-        for (int odd : new int[] {12, 24, -1, Integer.MAX_VALUE, Integer.MIN_VALUE}) {
+        for (int odd : new int[] {14, 24, -1, Integer.MAX_VALUE, Integer.MIN_VALUE}) {
             Due.is("told of " + odd, x.told(odd, 0), Due.BAD);
         }
         Due.end();

@@ -30,10 +30,12 @@ public final class Promise25AnswersTest {
         row(x, 6, round, point, 0, 0, 0, 0);
         Due.is("round to point", x.answers(x.carrier(round, point, 0)), 8);
         row(x, 8, point, round, 0);
-        for (int odd : new int[] {9, 24, -1, Integer.MAX_VALUE, Integer.MIN_VALUE}) {
+        for (int odd : new int[] {9, 23, 24, -1, Integer.MAX_VALUE, Integer.MIN_VALUE}) {
             Due.is("answers(" + odd + ")", x.answers(odd), Due.BAD);
         }
-        for (int i = 9; i < 24; i++) {
+        Due.is("all to the lowest", x.answers(x.carrier(four, four, 0)), 10);
+        row(x, 10, four, four, 3, 3, 3, 3, 3, 3, 3, 3, 3, 3);
+        for (int i = 11; i < 24; i++) {
             Due.is("answers", x.answers(f), i);
         }
         long before = x.digest();

@@ -18,6 +18,7 @@ public final class Promise29FollowsTest {
         int latters = Worlds.latters(x, 3);
         Due.is("{1} to {2}", x.follows(latters, 0, 2, 4), 4);
         Due.is("{1} to none", x.follows(latters, 0, 2, 0), 4);
+        Due.is("{1} to {1, 2}", x.follows(latters, 0, 2, 6), 7);
         Due.is("32 is none", x.follows(chain, 2, 32, 0), Due.NO);
         Due.is("32 is none", x.follows(chain, 2, 0, 32), Due.NO);
         Due.is("-1 is none", x.follows(chain, 2, -1, 0), Due.NO);

@@ -99,6 +99,21 @@ final class Worlds {
         return t;
     }
 
+    /** Object 0 goes into object 1 and back, which does nothing; back and in again is another arrow of 1. */
+    static int inside(ArrowTables x) {
+        int t = x.table(2);
+        int in = x.arrow(t, 0, 1);
+        int back = x.arrow(t, 1, 0);
+        int again = x.arrow(t, 1, 1);
+        x.way(t, in, back, 0);
+        x.way(t, back, in, again);
+        x.way(t, in, again, in);
+        x.way(t, again, back, back);
+        x.way(t, again, again, again);
+        x.close(t);
+        return t;
+    }
+
     /** Two objects and several arrows from the first to the second. */
     static int sheaf(ArrowTables x, int arrows) {
         int t = x.table(2);
