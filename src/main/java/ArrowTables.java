@@ -282,8 +282,8 @@ public final class ArrowTables {
         }
         boolean found = false;
         search.start(t);
-        for (int i = 0; i <= MOST_TRIES && search.next(t, u); i++) {
-            found = found || isSame(t, u, search.given);
+        for (int i = 0; !found && i <= MOST_TRIES && search.next(t, u); i++) {
+            found = isSame(t, u, search.given);
         }
         if (search.spent) {
             return SPENT;
@@ -638,13 +638,15 @@ public final class ArrowTables {
 
     // ---- carriers that are searched, and what is told of them
 
-    /** Goes through to the end of the search, so that the tries tell of the two tables alone. */
+    /** How many are come to; the search ends with the wanted one, as no try is due behind it. */
     private int pickCarrier(Table t, Table u, int wanted) {
         int found = 0;
+        boolean picked = false;
         search.start(t);
-        while (found <= MOST_TRIES && search.next(t, u)) {
+        while (!picked && found <= MOST_TRIES && search.next(t, u)) {
             if (found == wanted) {
                 copy(search.given, pickedCarrier, t.arrows);
+                picked = true;
             }
             found++;
         }

@@ -355,9 +355,10 @@ final class Model {
         return !isArrow(t, a) || !isArrow(t, b) ? BAD : worlds.get(t).way(a, b);
     }
 
-    /** What a search came to: the carriers in order, or spent. */
+    /** What a search that goes on as far as it may comes to: the carriers in order, each with the try it came with. */
     private static final class Found {
         List<int[]> maps = new ArrayList<>();
+        List<Integer> triesOf = new ArrayList<>();
         int tries = 0;
         boolean spent = false;
     }
@@ -376,6 +377,7 @@ final class Model {
             if (keeps(v, w, map, at)) {
                 if (at + 1 == v.size()) {
                     f.maps.add(map.clone());
+                    f.triesOf.add(f.tries);
                 } else {
                     searchFrom(v, w, map, at + 1, f);
                 }
@@ -432,16 +434,17 @@ final class Model {
             return refused;
         }
         Found f = search(t, u);
-        if (!f.spent && k >= f.maps.size()) {
+        boolean found = k < f.maps.size();
+        if (!found && !f.spent) {
             return NO;
         }
         if (carries.size() == 24) {
             return FULL;
         }
-        if (f.spent) {
+        if (!found) {
             return SPENT;
         }
-        tries = f.tries;
+        tries = f.triesOf.get(k);
         return keep(t, u, f.maps.get(k));
     }
 
@@ -517,17 +520,19 @@ final class Model {
             return refused;
         }
         Found f = search(t, u);
+        World v = worlds.get(t);
+        World w = worlds.get(u);
+        for (int i = 0; i < f.maps.size(); i++) {
+            int[] map = f.maps.get(i);
+            if (judge(v, w, map, 2) + judge(v, w, map, 3) + judge(v, w, map, 4) == 3) {
+                tries = f.triesOf.get(i);
+                return 1;
+            }
+        }
         if (f.spent) {
             return SPENT;
         }
         tries = f.tries;
-        World v = worlds.get(t);
-        World w = worlds.get(u);
-        for (int[] map : f.maps) {
-            if (judge(v, w, map, 2) + judge(v, w, map, 3) + judge(v, w, map, 4) == 3) {
-                return 1;
-            }
-        }
         return 0;
     }
 

@@ -53,14 +53,59 @@ public final class Promise14CarrierTest {
         Due.is("full", x.carrier(one, chain, 0), Due.FULL);
         Due.is("not so many, full", x.carrier(one, chain, 6), Due.NO);
         Due.is("open, full", x.carrier(one, open, 0), Due.NO);
+        Due.is("found in time, full", x.carrier(chain, chain, 0), Due.FULL);
+        Due.is("count(2)", x.count(2), 6);
         Due.is("k below 0, full", x.carrier(one, chain, -1), Due.BAD);
         Due.is("full ahead of spent", x.carrier(chain, chain, 1000000), Due.FULL);
         Due.is("digest()", x.digest(), before);
         Due.is("count(1)", x.count(1), 24);
     }
 
+    /** The search ends with the carrier that is kept, so what would be spent behind it does not count. */
+    private static void foundInTime() {
+        ArrowTables x = new ArrowTables();
+        int points = Worlds.points(x, 6);
+        int chain = Worlds.chain(x, 6);
+        int pair = Worlds.loose(x, 6, 1);
+        Due.is("carriers, spent", x.carriers(pair, pair), Due.SPENT);
+        Due.is("the first", x.carrier(pair, pair, 0), 0);
+        row(x, 0, 0, 0, 0, 0, 0, 0, 0);
+        Due.is("count(2)", x.count(2), 7);
+        Due.is("the first", x.carrier(chain, chain, 0), 1);
+        Due.is("one try for each arrow", x.count(2), 21);
+        Due.is("the second", x.carrier(chain, chain, 1), 2);
+        // the last object gets 1, and each arrow to it the one from 0 to 1
+        row(x, 2, 0, 0, 0, 0, 0, 1);
+        Due.is("an arrow to the last object", x.gives(2, 10), 6);
+        Due.is("spent", x.carrier(chain, chain, 1000000), Due.SPENT);
+        Due.is("the last", x.carrier(points, points, 46655), 3);
+        Due.is("count(2)", x.count(2), 55986);
+        Due.is("not so many", x.carrier(points, points, 46656), Due.NO);
+        Due.is("some", x.carrier(points, points, 6), 4);
+        Due.is("count(2)", x.count(2), 5 + 6 + 1 + 1);
+    }
+
+    /** The 60000th try still finds; the next one is spent. */
+    private static void lastTry() {
+        ArrowTables x = new ArrowTables();
+        int t = Worlds.loose(x, 6, 5);
+        int u = Worlds.loose(x, 5, 12, 34);
+        int v = Worlds.loose(x, 6, 45);
+        int w = Worlds.points(x, 5);
+        Due.is("with the last try", x.carrier(t, u, 2079), 0);
+        Due.is("count(2)", x.count(2), 60000);
+        Due.is("spent", x.carrier(t, u, 2080), Due.SPENT);
+        Due.is("ahead of it", x.carrier(v, w, 1918), 1);
+        Due.is("count(2)", x.count(2), 59963);
+        Due.is("with one try beyond", x.carrier(v, w, 1919), Due.SPENT);
+        Due.is("nothing is changed", x.count(2), 59963);
+        Due.is("nothing is kept", x.count(1), 2);
+    }
+
     public static void main(String[] args) {
         inOrder();
+        foundInTime();
+        lastTry();
         refused();
         Due.end();
     }

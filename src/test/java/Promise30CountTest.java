@@ -14,23 +14,27 @@ public final class Promise30CountTest {
         count(x, 2, 0, 0);
         x.carriers(two, three);
         count(x, 2, 0, 66);
+        x.carriers(three, three);
+        count(x, 2, 0, 393);
+        // one try for each of its arrows
         x.carrier(three, three, 0);
-        count(x, 2, 1, 393);
+        count(x, 2, 1, 6);
         x.then(0, 0);
         x.answers(0);
         x.limit(0);
-        count(x, 2, 3, 393);
+        count(x, 2, 3, 6);
+        // objects 0 0, the arrow three times; objects 0 1, and the third for the arrow is what is looked for
         x.same(two, two);
-        count(x, 2, 3, 2 + 4 + 4 * 3);
+        count(x, 2, 3, 2 + 3 + 1 + 3);
         // what is refused changes nothing
         x.carrier(two, three, 6);
         x.carriers(two, 2);
         x.same(-1, two);
-        count(x, 2, 3, 18);
+        count(x, 2, 3, 9);
         x.table(1);
         x.turned(two);
         x.beside(two, two);
-        count(x, 5, 3, 18);
+        count(x, 5, 3, 9);
         for (int odd : new int[] {3, -1, Integer.MAX_VALUE, Integer.MIN_VALUE}) {
             Due.is("count(" + odd + ")", x.count(odd), Due.BAD);
         }
