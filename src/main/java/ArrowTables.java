@@ -33,7 +33,6 @@ public final class ArrowTables {
     private int tableCount;
     private int keptCount;
     private int limitLegCount;
-    private int latestTries;
 
     public ArrowTables() {
         tables = new Table[MOST_TABLES];
@@ -194,11 +193,7 @@ public final class ArrowTables {
             return NO;
         }
         int found = pickCarrier(t, u, NONE);
-        if (search.spent) {
-            return SPENT;
-        }
-        latestTries = search.tries;
-        return found;
+        return search.spent ? SPENT : found;
     }
 
     public int carrier(int table, int other, int k) {
@@ -220,7 +215,6 @@ public final class ArrowTables {
         if (search.spent) {
             return SPENT;
         }
-        latestTries = search.tries;
         Carrier made = new Carrier(table, other, t, u);
         copy(pickedCarrier, made.given, t.arrows);
         return keepCarrier(made);
@@ -288,7 +282,6 @@ public final class ArrowTables {
         if (search.spent) {
             return SPENT;
         }
-        latestTries = search.tries;
         return found ? 1 : 0;
     }
 
@@ -426,7 +419,7 @@ public final class ArrowTables {
             case 1:
                 return keptCount;
             case 2:
-                return latestTries;
+                return search.tries;
             default:
                 return BAD;
         }
@@ -1031,6 +1024,7 @@ public final class ArrowTables {
     /** The search for carriers, with the rows that it works on. */
     private static final class Search {
         final int[] given;
+        // These stay till the next search, also where the call was refused: what was tried was tried.
         int tries;
         boolean spent;
         private int at;
@@ -1059,11 +1053,12 @@ public final class ArrowTables {
                 int value = read(given, at) + 1;
                 if (value >= (t.doesNothing(at) ? u.objects : u.arrows)) {
                     at--;
-                } else if (tries >= MOST_TRIES) {
-                    spent = true;
-                    return false;
                 } else {
                     tries++;
+                    if (tries > MOST_TRIES) {
+                        spent = true;
+                        return false;
+                    }
                     write(given, at, value);
                     if (fits(t, u)) {
                         if (at + 1 >= t.arrows) {

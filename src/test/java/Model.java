@@ -366,13 +366,14 @@ final class Model {
     private static void searchFrom(World v, World w, int[] map, int at, Found f) {
         int most = at < v.n ? w.n : w.size();
         for (int value = 0; value < most; value++) {
-            if (f.tries == 60000) {
-                f.spent = true;
-            }
             if (f.spent) {
                 return;
             }
             f.tries++;
+            if (f.tries > 60000) {
+                f.spent = true;
+                return;
+            }
             map[at] = value;
             if (keeps(v, w, map, at)) {
                 if (at + 1 == v.size()) {
@@ -421,11 +422,8 @@ final class Model {
             return refused;
         }
         Found f = search(t, u);
-        if (f.spent) {
-            return SPENT;
-        }
         tries = f.tries;
-        return f.maps.size();
+        return f.spent ? SPENT : f.maps.size();
     }
 
     int carrier(int t, int u, int k) {
@@ -435,6 +433,7 @@ final class Model {
         }
         Found f = search(t, u);
         boolean found = k < f.maps.size();
+        tries = found ? f.triesOf.get(k) : f.tries;
         if (!found && !f.spent) {
             return NO;
         }
@@ -444,7 +443,6 @@ final class Model {
         if (!found) {
             return SPENT;
         }
-        tries = f.triesOf.get(k);
         return keep(t, u, f.maps.get(k));
     }
 
@@ -529,11 +527,8 @@ final class Model {
                 return 1;
             }
         }
-        if (f.spent) {
-            return SPENT;
-        }
         tries = f.tries;
-        return 0;
+        return f.spent ? SPENT : 0;
     }
 
     private static long chances(List<List<Integer>> homs) {

@@ -44,7 +44,7 @@ public final class Promise14CarrierTest {
         }
         Due.is("spent", x.carrier(chain, chain, 1000000), Due.SPENT);
         Due.is("count(1)", x.count(1), 0);
-        Due.is("count(2)", x.count(2), 0);
+        Due.is("count(2)", x.count(2), 60001);
         for (int i = 0; i < 24; i++) {
             Due.is("kept", x.carrier(one, chain, i % 6), i);
         }
@@ -53,8 +53,9 @@ public final class Promise14CarrierTest {
         Due.is("full", x.carrier(one, chain, 0), Due.FULL);
         Due.is("not so many, full", x.carrier(one, chain, 6), Due.NO);
         Due.is("open, full", x.carrier(one, open, 0), Due.NO);
+        Due.is("tries till it is found", x.count(2), 6);
         Due.is("found in time, full", x.carrier(chain, chain, 0), Due.FULL);
-        Due.is("count(2)", x.count(2), 6);
+        Due.is("count(2)", x.count(2), 21);
         Due.is("k below 0, full", x.carrier(one, chain, -1), Due.BAD);
         Due.is("full ahead of spent", x.carrier(chain, chain, 1000000), Due.FULL);
         Due.is("digest()", x.digest(), before);
@@ -81,6 +82,7 @@ public final class Promise14CarrierTest {
         Due.is("the last", x.carrier(points, points, 46655), 3);
         Due.is("count(2)", x.count(2), 55986);
         Due.is("not so many", x.carrier(points, points, 46656), Due.NO);
+        Due.is("count(2)", x.count(2), 55986);
         Due.is("some", x.carrier(points, points, 6), 4);
         Due.is("count(2)", x.count(2), 5 + 6 + 1 + 1);
     }
@@ -98,7 +100,7 @@ public final class Promise14CarrierTest {
         Due.is("ahead of it", x.carrier(v, w, 1918), 1);
         Due.is("count(2)", x.count(2), 59963);
         Due.is("with one try beyond", x.carrier(v, w, 1919), Due.SPENT);
-        Due.is("nothing is changed", x.count(2), 59963);
+        Due.is("the try beyond is one", x.count(2), 60001);
         Due.is("nothing is kept", x.count(1), 2);
     }
 
