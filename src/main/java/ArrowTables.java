@@ -1054,11 +1054,12 @@ public final class ArrowTables {
                 if (value >= (t.doesNothing(at) ? u.objects : u.arrows)) {
                     at--;
                 } else {
-                    tries++;
-                    if (tries > MOST_TRIES) {
+                    if (tries >= MOST_TRIES) {
+                        // The try beyond is refused, so nothing is given and it is none of them.
                         spent = true;
                         return false;
                     }
+                    tries++;
                     write(given, at, value);
                     if (fits(t, u)) {
                         if (at + 1 >= t.arrows) {

@@ -369,11 +369,11 @@ final class Model {
             if (f.spent) {
                 return;
             }
-            f.tries++;
-            if (f.tries > 60000) {
+            if (f.tries == 60000) {
                 f.spent = true;
                 return;
             }
+            f.tries++;
             map[at] = value;
             if (keeps(v, w, map, at)) {
                 if (at + 1 == v.size()) {

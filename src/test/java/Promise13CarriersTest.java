@@ -63,7 +63,7 @@ public final class Promise13CarriersTest {
         many(x, points, chain, 46656, 55986);
         long before = x.digest();
         Due.is("carriers, spent", x.carriers(chain, chain), Due.SPENT);
-        Due.is("its tries", x.count(2), 60001);
+        Due.is("its tries", x.count(2), 60000);
         Due.is("digest()", x.digest(), before);
         int t = Worlds.loose(x, 4, 3, 3, 2, 3, 2);
         int u = Worlds.loose(x, 5, 3, 23, 3, 4, 3, 4, 3);
@@ -71,7 +71,7 @@ public final class Promise13CarriersTest {
         int v = Worlds.loose(x, 4, 2, 13, 12, 3);
         int w = Worlds.loose(x, 4, 12, 12, 2, 13, 2, 3, 12, 3, 12, 2, 12, 12, 3, 2, 2, 2, 13);
         Due.is("one try beyond", x.carriers(v, w), Due.SPENT);
-        Due.is("count(2)", x.count(2), 60001);
+        Due.is("count(2)", x.count(2), 60000);
     }
 
     public static void main(String[] args) {

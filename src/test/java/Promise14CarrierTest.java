@@ -44,7 +44,7 @@ public final class Promise14CarrierTest {
         }
         Due.is("spent", x.carrier(chain, chain, 1000000), Due.SPENT);
         Due.is("count(1)", x.count(1), 0);
-        Due.is("count(2)", x.count(2), 60001);
+        Due.is("count(2)", x.count(2), 60000);
         for (int i = 0; i < 24; i++) {
             Due.is("kept", x.carrier(one, chain, i % 6), i);
         }
@@ -87,7 +87,7 @@ public final class Promise14CarrierTest {
         Due.is("count(2)", x.count(2), 5 + 6 + 1 + 1);
     }
 
-    /** The 60000th try still finds; the next one is spent. */
+    /** The 60000th try still finds; a call that would need the next one is spent. */
     private static void lastTry() {
         ArrowTables x = new ArrowTables();
         int t = Worlds.loose(x, 6, 5);
@@ -100,7 +100,7 @@ public final class Promise14CarrierTest {
         Due.is("ahead of it", x.carrier(v, w, 1918), 1);
         Due.is("count(2)", x.count(2), 59963);
         Due.is("with one try beyond", x.carrier(v, w, 1919), Due.SPENT);
-        Due.is("the try beyond is one", x.count(2), 60001);
+        Due.is("the try beyond is none", x.count(2), 60000);
         Due.is("nothing is kept", x.count(1), 2);
     }
 

@@ -18,7 +18,7 @@ public final class Promise18SameTest {
         Due.is("six points and pair", x.same(six, seven), 0);
         Due.is("there is none, so all tries", x.count(2), 55986);
         Due.is("pair and six points", x.same(seven, six), Due.SPENT);
-        Due.is("its tries", x.count(2), 60001);
+        Due.is("its tries", x.count(2), 60000);
     }
 
     public static void main(String[] args) {
@@ -44,14 +44,14 @@ public final class Promise18SameTest {
         Due.is("one and turns", x.same(one, turns), 0);
         Due.is("tries", x.count(2), 1);
         Due.is("spent ahead of it", x.same(six, six), Due.SPENT);
-        Due.is("its tries", x.count(2), 60001);
+        Due.is("its tries", x.count(2), 60000);
         Due.is("open", x.same(open, one), Due.NO);
         Due.is("other open", x.same(one, open), Due.NO);
         for (int odd : new int[] {8, -1, Integer.MAX_VALUE, Integer.MIN_VALUE}) {
             Due.is("same(" + odd + ", ..)", x.same(odd, open), Due.BAD);
             Due.is("same(.., " + odd + ")", x.same(open, odd), Due.BAD);
         }
-        Due.is("tries", x.count(2), 60001);
+        Due.is("tries", x.count(2), 60000);
         Due.is("none is kept", x.count(1), 0);
         Due.end();
     }

@@ -55,7 +55,7 @@ public final class Promise30CountTest {
         Due.is("count(2)", x.count(2), tries);
     }
 
-    /** A call that is refused behind its search has its tries; the one beyond 60000 is one of them. */
+    /** A call that is refused behind its search has its tries; the one beyond 60000 is refused, so it is none of them. */
     private static void refusedBehind() {
         ArrowTables x = new ArrowTables();
         int one = Worlds.points(x, 1);
@@ -64,15 +64,15 @@ public final class Promise30CountTest {
         Due.is("not so many", x.carrier(one, one, 1), Due.NO);
         count(x, 3, 0, 1);
         Due.is("spent", x.carriers(chain, chain), Due.SPENT);
-        count(x, 3, 0, 60001);
+        count(x, 3, 0, 60000);
         x.carriers(one, open);
         x.carrier(open, one, 0);
         x.same(open, open);
-        refusedAhead(x, one, 60001);
+        refusedAhead(x, one, 60000);
         x.carriers(one, chain);
         count(x, 3, 0, 6);
         Due.is("spent", x.same(chain, chain), Due.SPENT);
-        count(x, 3, 0, 60001);
+        count(x, 3, 0, 60000);
         for (int i = 0; i < 24; i++) {
             x.carrier(one, chain, i % 6);
         }
@@ -82,7 +82,7 @@ public final class Promise30CountTest {
         Due.is("not so many", x.carrier(one, chain, 6), Due.NO);
         count(x, 3, 24, 6);
         Due.is("full, spent", x.carrier(chain, chain, 1000000), Due.FULL);
-        count(x, 3, 24, 60001);
-        refusedAhead(x, one, 60001);
+        count(x, 3, 24, 60000);
+        refusedAhead(x, one, 60000);
     }
 }
