@@ -6,12 +6,13 @@ public final class Promise31DigestTest {
             for (int what = 0; what < 3; what++) {
                 h = 31 * h + x.about(t, what);
             }
-            for (int a = 0; a < x.about(t, 1); a++) {
+            int arrows = x.about(t, 1);
+            for (int a = 0; a < arrows; a++) {
                 h = 31 * h + x.end(t, a, 0);
                 h = 31 * h + x.end(t, a, 1);
             }
-            for (int a = 0; a < x.about(t, 1); a++) {
-                for (int b = 0; b < x.about(t, 1); b++) {
+            for (int a = 0; a < arrows; a++) {
+                for (int b = 0; b < arrows; b++) {
                     h = 31 * h + x.wayOf(t, a, b);
                 }
             }
@@ -19,7 +20,8 @@ public final class Promise31DigestTest {
         for (int f = 0; f < x.count(1); f++) {
             h = 31 * h + x.told(f, 0);
             h = 31 * h + x.told(f, 1);
-            for (int a = 0; a < x.about(x.told(f, 0), 1); a++) {
+            int arrows = x.about(x.told(f, 0), 1);
+            for (int a = 0; a < arrows; a++) {
                 h = 31 * h + x.gives(f, a);
             }
         }

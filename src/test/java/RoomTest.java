@@ -16,7 +16,7 @@ public final class RoomTest {
         use(x);
         Due.holds("8 tables and 24 carriers take less than 40,000 bytes", taken() - before < 40_000);
         before = taken();
-        for (int i = 0; i < 20; i++) {
+        for (int i = 0; i < 10; i++) {
             ask(x);
         }
         long asked = taken() - before;

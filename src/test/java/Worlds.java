@@ -124,6 +124,21 @@ final class Worlds {
         return t;
     }
 
+    /** The carrier from a table to itself that gives each arrow itself is kept; those ahead of it are, too. */
+    static int identity(ArrowTables x, int t) {
+        for (int k = 0; k < 24; k++) {
+            int f = x.carrier(t, t, k);
+            boolean same = true;
+            for (int a = 0; a < x.about(t, 1); a++) {
+                same &= x.gives(f, a) == a;
+            }
+            if (same) {
+                return f;
+            }
+        }
+        return Due.NONE;
+    }
+
     private Worlds() {
     }
 }
