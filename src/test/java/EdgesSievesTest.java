@@ -244,5 +244,10 @@ public final class EdgesSievesTest {
         int small = y.order(1, 1);
         y.carrier(small, one, 0);
         Due.is("behind the tables", y.digest(), digestOf(1, 2, 1, 0, 0, 0, 0, 0, 1, 1, 0, 1, 1, 1, 0, 0, 0, 0, 0, 0, 1, 0, 0, 0, 0, 1, 0, 0));
+        ArrowTables z = new ArrowTables();
+        int from = z.order(1, 1);
+        int to = z.order(1, 1);
+        z.carrier(from, to, 0);
+        Due.is("to the second table", z.digest(), digestOf(1, 1, 1, 0, 0, 0, 1, 1, 1, 0, 0, 0, 0, 1, 0));
     }
 }
