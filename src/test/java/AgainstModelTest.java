@@ -1,17 +1,27 @@
 /** Random runs of 512 calls, each answer held against the model's. */
 public final class AgainstModelTest {
     private static final int[] ODD = {-1, -2, 24, 25, 31, 32, 64, 1000, Integer.MAX_VALUE, Integer.MIN_VALUE, -7};
+    private static final int NOWHERE = -1;
+    private static final int MOST_CALLS_AHEAD = 300;
 
     private long seed;
+    private final int number;
     private int calls;
-    private ArrowTables x;
-    private Model m;
+    private final ArrowTables x;
+    private final Model m;
 
     public static void main(String[] args) {
         for (int run = 0; run < 400; run++) {
-            new AgainstModelTest().run(run);
+            new AgainstModelTest(run).run();
         }
         Due.end();
+    }
+
+    private AgainstModelTest(int number) {
+        this.number = number;
+        seed = 1000003L * number + 17;
+        x = new ArrowTables();
+        m = new Model();
     }
 
     private int pick(int n) {
@@ -27,48 +37,43 @@ public final class AgainstModelTest {
         return chance == 1 ? n : pick(Math.max(n, 1));
     }
 
-    private void run(int number) {
-        seed = 1000003L * number + 17;
-        x = new ArrowTables();
-        m = new Model();
-        calls = 0;
+    private void run() {
         if (number % 8 != 0) {
             for (int i = 0; i < 2 + number % 5; i++) {
-                calls += start(number);
+                start();
             }
         }
         // a call may be two, and the digest is the last one
         for (; calls < 510; calls++) {
-            String said = call(number);
+            String said = call();
             if (!said.isEmpty()) {
                 System.out.println("run " + number + ", call " + calls + ": " + said);
                 Due.holds("run " + number + " is as the model's", false);
                 return;
             }
         }
-        Due.is("run " + number + " digest()", x.digest(), m.digest());
+        same("digest()", x.digest(), m.digest());
     }
 
-    /** A world to begin with; answers how many calls it took. */
-    private int start(int number) {
-        int kind = pick(5);
-        if (kind == 0) {
-            return monoid();
+    /** A world to begin with. */
+    private void start() {
+        int kind = pick(6);
+        if (kind < 2) {
+            maps();
+        } else if (kind == 2) {
+            bundles();
+        } else if (kind == 3) {
+            shut(opened(1 + pick(4)));
+        } else {
+            int n = 1 + pick(number % 10 == 0 ? 6 : 4);
+            long rows = rightRows(n);
+            same("order", x.order(n, rows), m.order(n, rows));
         }
-        if (kind == 1) {
-            int n = 1 + pick(4);
-            same("table", x.table(n), m.table(n));
-            same("close", x.close(m.worlds.size() - 1), m.close(m.worlds.size() - 1));
-            return 2;
-        }
-        int n = 1 + pick(number % 10 == 0 ? 6 : 4);
-        long rows = rightRows(n);
-        same("order", x.order(n, rows), m.order(n, rows));
-        return 1;
     }
 
     private void same(String call, long got, long want) {
-        Due.is(call, got, want);
+        calls++;
+        Due.is("run " + number + " " + call, got, want);
     }
 
     private long rightRows(int n) {
@@ -89,70 +94,69 @@ public final class AgainstModelTest {
         return rows;
     }
 
-    /** Maps of a few points to themselves, closed under one after the other, are worlds of one object. */
-    private int monoid() {
-        int points = 1 + pick(3);
-        int most = points == 3 ? 27 : points == 2 ? 4 : 1;
-        boolean[] in = new boolean[most];
-        int[] at = new int[most];
-        int self = points == 3 ? 0 * 1 + 1 * 3 + 2 * 9 : points == 2 ? 2 : 0;
-        in[self] = true;
-        for (int i = 0; i < 1 + pick(2); i++) {
-            in[pick(most)] = true;
+    /** A few maps between small sets, told in any order: one told wrongly may stand till the end. */
+    private void maps() {
+        int[] sizes = new int[1 + pick(3)];
+        for (int i = 0; i < sizes.length; i++) {
+            sizes[i] = 1 + pick(3);
         }
-        for (int pass = 0; pass < 30; pass++) {
-            for (int a = 0; a < most; a++) {
-                for (int b = 0; b < most; b++) {
-                    if (in[a] && in[b]) {
-                        in[after(a, b, points)] = true;
-                    }
+        Maps maps = new Maps(sizes);
+        for (int i = 0; i < 1 + pick(3); i++) {
+            maps.add(pick(sizes.length), pick(sizes.length), pick(27));
+        }
+        if (!maps.close(12) || calls + maps.size() + maps.ways() + 3 > MOST_CALLS_AHEAD || m.worlds.size() >= 8) {
+            return;
+        }
+        int t = opened(maps.objects());
+        for (int a = maps.objects(); a < maps.size(); a++) {
+            addArrow(t, maps.from(a), maps.to(a));
+        }
+        int wrongAt = pick(10) == 0 ? pick(Math.max(1, maps.ways())) : NOWHERE;
+        int told = 0;
+        int turn = pick(maps.size());
+        for (int i = 0; i < maps.size(); i++) {
+            int a = (i + turn) % maps.size();
+            for (int b = maps.objects(); b < maps.size(); b++) {
+                if (a >= maps.objects() && maps.to(a) == maps.from(b)) {
+                    int c = told == wrongAt ? pick(maps.size()) : maps.way(a, b);
+                    same("way", x.way(t, a, b, c), m.way(t, a, b, c));
+                    told++;
                 }
             }
         }
-        int size = 1;
-        int[] list = new int[28];
-        list[0] = self;
-        for (int a = 0; a < most; a++) {
-            if (in[a] && a != self) {
-                at[a] = size;
-                list[size++] = a;
-            }
+        shut(t);
+    }
+
+    /** Arrows from low objects to high ones, none behind another: there may be more chances than are looked at. */
+    private void bundles() {
+        int n = 2 + pick(4);
+        int low = 1 + pick(n - 1);
+        int most = 4 + pick(18);
+        if (calls + most + 3 > MOST_CALLS_AHEAD || m.worlds.size() >= 8) {
+            return;
         }
-        if (size > 12 || m.worlds.size() >= 8) {
-            return 0;
+        int t = opened(n);
+        for (int i = 0; i < most; i++) {
+            addArrow(t, pick(low), low + pick(n - low));
         }
-        int t = m.table(1);
-        same("table", x.table(1), t);
-        int calls = 1;
-        for (int a = 1; a < size; a++, calls++) {
-            same("arrow", x.arrow(t, 0, 0), m.arrow(t, 0, 0));
-        }
-        for (int a = 1; a < size; a++) {
-            for (int b = 1; b < size; b++, calls++) {
-                int c = at[after(list[a], list[b], points)];
-                same("way", x.way(t, a, b, c), m.way(t, a, b, c));
-            }
-        }
+        shut(t);
+    }
+
+    private int opened(int n) {
+        int t = m.table(n);
+        same("table", x.table(n), t);
+        return t;
+    }
+
+    private void addArrow(int t, int from, int to) {
+        same("arrow", x.arrow(t, from, to), m.arrow(t, from, to));
+    }
+
+    /** Its fault is looked at first, as there may be one. */
+    private void shut(int t) {
+        int what = pick(4);
+        same("fault", x.fault(t, what), m.fault(t, what));
         same("close", x.close(t), m.close(t));
-        return calls + 1;
-    }
-
-    private static int after(int a, int b, int points) {
-        int made = 0;
-        int factor = 1;
-        for (int p = 0; p < points; p++) {
-            int q = digit(a, p, points);
-            made += digit(b, q, points) * factor;
-            factor *= points;
-        }
-        return made;
-    }
-
-    private static int digit(int map, int place, int points) {
-        for (int i = 0; i < place; i++) {
-            map /= points;
-        }
-        return map % points;
     }
 
     private int t() {
@@ -178,8 +182,6 @@ public final class AgainstModelTest {
         return goal ? m.carries.get(f).u : m.carries.get(f).t;
     }
 
-    private static final int NOWHERE = -1;
-
     private String told(String call, long got, long want) {
         return got == want ? "" : call + " answered " + got + ", the model " + want;
     }
@@ -191,15 +193,15 @@ public final class AgainstModelTest {
         return said.isEmpty() ? told("count 2 behind " + call, x.count(2), m.count(2)) : said;
     }
 
-    private String call(int number) {
+    private String call() {
         int kind = pick(100);
         if (kind < 30) {
-            return tableCall(kind, number);
+            return tableCall(kind);
         }
         return kind < 80 ? carrierCall(kind) : sieveCall(kind);
     }
 
-    private String tableCall(int kind, int number) {
+    private String tableCall(int kind) {
         int t = t();
         int a = arrowOf(t);
         int b = arrowOf(t);

@@ -386,16 +386,16 @@ final class Model {
         }
     }
 
+    /** What is among those ahead of the last one was kept when the last of them was tried. */
     private static boolean keeps(World v, World w, int[] map, int last) {
-        for (int a = 0; a <= last; a++) {
-            if (w.from(map[a]) != map[v.from(a)] || w.to(map[a]) != map[v.to(a)]) {
-                return false;
-            }
+        if (w.from(map[last]) != map[v.from(last)] || w.to(map[last]) != map[v.to(last)]) {
+            return false;
         }
         for (int a = 0; a <= last; a++) {
             for (int b = 0; b <= last; b++) {
                 int c = v.way(a, b);
-                if (c >= 0 && c <= last && w.way(map[a], map[b]) != map[c]) {
+                boolean isNew = c >= 0 && c <= last && (a == last || b == last || c == last);
+                if (isNew && w.way(map[a], map[b]) != map[c]) {
                     return false;
                 }
             }
